@@ -862,7 +862,7 @@ public final class DarnEggs {
         private static final int HAND = 7;
         private static final int HEAP = 40;
 
-        private boolean isTold;
+        // Without a law the row is empty.
         private final int[] code;
         private int size;
         private final int[] facts;
@@ -875,7 +875,6 @@ public final class DarnEggs {
         }
 
         void forget() {
-            isTold = false;
             size = 0;
         }
 
@@ -884,11 +883,7 @@ public final class DarnEggs {
             if (!readSum(text, 0)) {
                 return false;
             }
-            if (!text.isEnded()) {
-                return text.blame(CANT_STAND, text.at);
-            }
-            isTold = true;
-            return true;
+            return text.isEnded() || text.blame(CANT_STAND, text.at);
         }
 
         private boolean readSum(Tape text, int open) {
@@ -1012,11 +1007,7 @@ public final class DarnEggs {
         }
 
         int mends() {
-            int out = isTold ? valueOfCode() : 3 + facts[HEELS] / 2 - facts[ANGER] / 3;
-            return Math.max(0, Math.min(MOST_MEND, out));
-        }
-
-        private int valueOfCode() {
+            heap[0] = 3 + facts[HEELS] / 2 - facts[ANGER] / 3;
             int top = 0;
             for (int i = 0; i < size; i++) {
                 int entry = code[i];
@@ -1030,7 +1021,7 @@ public final class DarnEggs {
                     top++;
                 }
             }
-            return heap[0];
+            return Math.max(0, Math.min(MOST_MEND, heap[0]));
         }
 
         private static int valueOf(int deed, int a, int b) {
@@ -1046,9 +1037,9 @@ public final class DarnEggs {
                 case LEFT:
                     return b == 0 ? 0 : a % b;
                 case LEAST:
-                    return Math.min(a, b);
+                    return a < b ? a : b;
                 default:
-                    return Math.max(a, b);
+                    return a > b ? a : b;
             }
         }
     }
@@ -1311,10 +1302,22 @@ public final class DarnEggs {
                     place = behindEnd(place);
                 } else if (begun >= MOST_STEPS) {
                     return;
+                } else if (kinds[place] == AGAIN) {
+                    begun++;
+                    place = behindAgain(place);
                 } else {
                     begun++;
-                    place = kinds[place] == AGAIN ? behindAgain(place) : behindStep(state, village, law, place);
+                    tally(runOne(state, village, law, place));
+                    place++;
                 }
+            }
+        }
+
+        private void tally(boolean wasDone) {
+            if (wasDone) {
+                done++;
+            } else {
+                refused++;
             }
         }
 
@@ -1330,15 +1333,6 @@ public final class DarnEggs {
             }
             turnsLeft[again]--;
             return turnsLeft[again] > 0 ? again + 1 : end + 1;
-        }
-
-        private int behindStep(State state, Village village, Law law, int place) {
-            if (runOne(state, village, law, place)) {
-                done++;
-            } else {
-                refused++;
-            }
-            return place + 1;
         }
 
         private boolean runOne(State state, Village village, Law law, int place) {

@@ -1260,7 +1260,7 @@ public final class DarnEggsModel {
         }
 
         void ask() {
-            switch (upTo(34)) {
+            switch (upTo(35)) {
                 case 0: call("undo"); break;
                 case 1: call("told", some(12)); break;
                 case 2: call("egg", egg(), some(6)); break;
@@ -1295,8 +1295,29 @@ public final class DarnEggsModel {
                 case 31: call("count", some(4)); break;
                 case 32: call("feed", RANDOM.nextInt(), RANDOM.nextInt(), 0, -1, 1); break;
                 case 33: if (chance(20)) { for (int i = 0; i < 17; i++) { text("work", "day;"); } } break;
+                case 34: if (chance(20)) { goFar(); } break;
                 default: call("fault"); break;
             }
+        }
+
+        /** To DAY 600 and beyond, and agains one in another. */
+        void goFar() {
+            if (chance(50)) {
+                for (int i = 0; i < 4; i++) {
+                    text("work", "again 30[again 30[day;];];");
+                }
+                return;
+            }
+            int deep = 5 + upTo(2);
+            StringBuilder b = new StringBuilder();
+            for (int i = 0; i < deep; i++) {
+                b.append("again ").append(upTo(3)).append('[');
+            }
+            b.append("day;");
+            for (int i = 0; i < deep; i++) {
+                b.append("];");
+            }
+            text("work", b.toString());
         }
 
         String blank() {
