@@ -1,17 +1,5 @@
-import java.util.NoSuchElementException;
-
 /** For each promise of the document what it asks: ordinary inputs, the edges that it names, wrong inputs. */
-public final class DarnEggsPromises {
-    private static int wrong = 0;
-    private static String promise = "";
-
-    private static final String SMALL = "egg 2;egg 3;hand 0;hand 6;hand 3;hole 5;hole 8;hole 0;hole 2;"
-            + "path 0 1;path 1 2;path 2 3;wool 4;moths 3;";
-
-    interface Call {
-        long go();
-    }
-
+public final class DarnEggsPromises extends Due {
     public static void main(String[] args) {
         p1(); p2(); p3(); p4(); p5(); p6(); p7(); p8(); p9(); p10();
         p11(); p12(); p13(); p14(); p15(); p16(); p17(); p18(); p19(); p20();
@@ -19,117 +7,13 @@ public final class DarnEggsPromises {
         p31(); p32(); p33(); p34(); p35(); p36(); p37(); p38();
         steps();
         days();
-        if (wrong > 0) {
-            System.exit(1);
-        }
-    }
-
-    // ---- helpers ---------------------------------------------------------------------------
-
-    private static void due(String what, long got, long want) {
-        if (got != want) {
-            wrong++;
-            System.out.println(promise + ": " + what + " answered " + got + ", due is " + want);
-        }
-    }
-
-    private static void noElement(String what, Call call) {
-        thrown(what, call, "NoSuchElementException");
-    }
-
-    private static void badArgument(String what, Call call) {
-        thrown(what, call, "IllegalArgumentException");
-    }
-
-    private static void thrown(String what, Call call, String want) {
-        String got;
-        try {
-            got = "" + call.go();
-        } catch (NoSuchElementException | IllegalArgumentException e) {
-            got = e.getClass().getSimpleName();
-        }
-        if (!got.equals(want)) {
-            wrong++;
-            System.out.println(promise + ": " + what + " answered " + got + ", due is " + want);
-        }
-    }
-
-    private static void feed(DarnEggs x, String text) {
-        for (int i = 0; i < text.length(); i += 20) {
-            int[] a = new int[5];
-            for (int j = 0; j < 20; j++) {
-                a[j / 4] = a[j / 4] << 8 | (i + j < text.length() ? text.charAt(i + j) : 0);
-            }
-            x.feed(a[0], a[1], a[2], a[3], a[4]);
-        }
-    }
-
-    private static int village(DarnEggs x, String t) {
-        feed(x, t);
-        return x.village(t.length());
-    }
-
-    private static int law(DarnEggs x, String t) {
-        feed(x, t);
-        return x.law(t.length());
-    }
-
-    private static int work(DarnEggs x, String t) {
-        feed(x, t);
-        return x.work(t.length());
-    }
-
-    private static int book(DarnEggs x, String t) {
-        feed(x, t);
-        return x.book(t.length());
-    }
-
-    private static DarnEggs at(String villageText) {
-        DarnEggs x = new DarnEggs();
-        if (village(x, villageText) < 0) {
-            due("village \"" + villageText + "\" fault", x.fault(), DarnEggs.NONE);
-        }
-        return x;
-    }
-
-    private static void villageFault(String t, int kind, int place) {
-        DarnEggs x = new DarnEggs();
-        due("village \"" + t + "\"", village(x, t), kind - 10);
-        due("its fault", x.fault(), place);
-    }
-
-    private static void lawFault(String t, int kind, int place) {
-        DarnEggs x = at(SMALL);
-        due("law \"" + t + "\"", law(x, t), kind - 10);
-        due("its fault", x.fault(), place);
-    }
-
-    private static void workFault(String t, int kind, int place) {
-        DarnEggs x = at(SMALL);
-        due("work \"" + t + "\"", work(x, t), kind - 10);
-        due("its fault", x.fault(), place);
-        due("works", x.count(2), 0);
-    }
-
-    private static void bookFault(DarnEggs x, String t, int kind, int place) {
-        due("book \"" + t + "\"", book(x, t), kind - 10);
-        due("its fault", x.fault(), place);
-    }
-
-    private static void lawGives(String t, int want) {
-        DarnEggs x = new DarnEggs();
-        due("law \"" + t + "\"", law(x, t), 1);
-        due("would by \"" + t + "\"", x.would(1, 2, 3, 4, 5, 6, 7, 5), want);
-    }
-
-    private static String times(int n, String t) {
-        return t.repeat(n);
+        end();
     }
 
     // ---- promises --------------------------------------------------------------------------
 
     private static void p1() {
-        promise = "1 a new object";
+        about = "1 a new object";
         DarnEggs x = new DarnEggs();
         for (int what = 0; what < 12; what++) {
             due("told(" + what + ")", x.told(what), what == 5 ? 12 : 0);
@@ -144,7 +28,7 @@ public final class DarnEggsPromises {
     }
 
     private static void p2() {
-        promise = "2 feed";
+        about = "2 feed";
         DarnEggs x = new DarnEggs();
         for (int i = 1; i <= 30; i++) {
             due("feed " + i, x.feed(0x20202020, 0x20202020, 0x20202020, 0x20202020, 0x20202020), 20 * i);
@@ -163,7 +47,7 @@ public final class DarnEggsPromises {
     }
 
     private static void p3() {
-        promise = "3 village";
+        about = "3 village";
         DarnEggs x = at(" egg  2 ;egg020;hand9;hole 60 ; hole 0;path 1 0;wool 3;wool 99;moths 2;moths 99;  ");
         due("eggs", x.told(0), 2);
         due("egg 1", x.egg(1, 0), 20);
@@ -263,7 +147,7 @@ public final class DarnEggsPromises {
     }
 
     private static void p4() {
-        promise = "4 law";
+        about = "4 law";
         lawGives("1+2*3", 7);
         lawGives("10-3-2", 5);
         lawGives("16/4/2", 2);
@@ -337,7 +221,7 @@ public final class DarnEggsPromises {
     }
 
     private static void p5() {
-        promise = "5 work";
+        about = "5 work";
         DarnEggs x = at(SMALL);
         due("work", work(x, " day ;again 2[ shear 1;again 3[];];darn 2 1 1;unpick 0; "), 4);
         due("refused", x.told(11), 1);
@@ -410,7 +294,7 @@ public final class DarnEggsPromises {
     }
 
     private static void p6() {
-        promise = "6 book";
+        about = "6 book";
         DarnEggs x = at(times(9, "hole 9;") + "egg 1;hand 0;");
         due("book", book(x, " 0 9;8  0 ; 3 99;"), 3);
         due("lines", x.told(10), 3);
@@ -437,7 +321,7 @@ public final class DarnEggsPromises {
     }
 
     private static void p7() {
-        promise = "7 fault";
+        about = "7 fault";
         DarnEggs x = new DarnEggs();
         due("none at first", x.fault(), -1);
         due("law", law(x, "1+x"), -9);
@@ -453,7 +337,7 @@ public final class DarnEggsPromises {
     }
 
     private static void p8() {
-        promise = "8 undo";
+        about = "8 undo";
         DarnEggs x = at("egg 1;hand 5;hole 2;hole 3;path 0 1;");
         due("work", work(x, "darn 0 0 0;darn 0 0 1;"), 1);
         due("work", work(x, "let 0 1;day;shear 5;unpick 0;"), 3);
@@ -480,7 +364,7 @@ public final class DarnEggsPromises {
     }
 
     private static void p9() {
-        promise = "9 told";
+        about = "9 told";
         DarnEggs x = at(SMALL);
         work(x, "darn 0 0 0;darn 1 0 1;darn 2 0 1;let 0 3;");
         int[] want = {2, 3, 4, 3, 0, 2, 1, 1, 3, 11, 0, 1};
@@ -497,7 +381,7 @@ public final class DarnEggsPromises {
     }
 
     private static void p10() {
-        promise = "10 egg";
+        about = "10 egg";
         DarnEggs x = at(SMALL);
         work(x, "darn 1 0 0;day;darn 1 0 0;let 0 2;");
         int[] want = {2, 2, 2, 2, 1, 0};
@@ -518,7 +402,7 @@ public final class DarnEggsPromises {
     }
 
     private static void p11() {
-        promise = "11 hand";
+        about = "11 hand";
         DarnEggs x = at(SMALL);
         work(x, "darn 1 0 0;day;darn 1 0 0;darn 2 1 0;day;darn 1 1 1;");
         due("anger", x.hand(1, 0), 6);
@@ -533,7 +417,7 @@ public final class DarnEggsPromises {
     }
 
     private static void p12() {
-        promise = "12 hole";
+        about = "12 hole";
         DarnEggs x = at(SMALL);
         work(x, "darn 0 0 3;darn 2 0 1;let 0 1;");
         due("wear", x.hole(3, 0), 0);
@@ -549,7 +433,7 @@ public final class DarnEggsPromises {
     }
 
     private static void p13() {
-        promise = "13 path";
+        about = "13 path";
         DarnEggs x = at("hole 1;hole 1;hole 1;path 2 0;path 0 1;");
         due("A", x.path(0, 0), 2);
         due("B", x.path(0, 1), 0);
@@ -562,7 +446,7 @@ public final class DarnEggsPromises {
     }
 
     private static void p14() {
-        promise = "14 mend";
+        about = "14 mend";
         DarnEggs x = at(SMALL);
         due("without a law", x.mend(0, 0, 0), 3);
         due("anger 6", x.mend(1, 0, 0), 1);
@@ -586,7 +470,7 @@ public final class DarnEggsPromises {
     }
 
     private static void p15() {
-        promise = "15 would";
+        about = "15 would";
         DarnEggs x = new DarnEggs();
         due("without a law", x.would(7, 8, 0, 0, 0, 0, 0, 0), 4);
         due("without a law", x.would(0, 9, 0, 0, 0, 0, 0, 0), 0);
@@ -606,7 +490,7 @@ public final class DarnEggsPromises {
     }
 
     private static void p16() {
-        promise = "16 can";
+        about = "16 can";
         DarnEggs x = at("egg 1;egg 9;hand 0;hand 0;hole 5;hole 0;wool 2;");
         due("can", x.can(0, 0, 0) ? 1 : 0, 1);
         due("wear is 0", x.can(0, 0, 1) ? 1 : 0, 0);
@@ -623,7 +507,7 @@ public final class DarnEggsPromises {
     }
 
     private static void p17() {
-        promise = "17 ahead";
+        about = "17 ahead";
         DarnEggs x = at("egg 1;hand 0;hole 4;hole 2;moths 2;");
         work(x, "darn 0 0 1;let 0 0;");
         due("now", x.ahead(0, 0), 4);
@@ -643,7 +527,7 @@ public final class DarnEggsPromises {
     }
 
     private static void p18() {
-        promise = "18 whole";
+        about = "18 whole";
         DarnEggs x = at("egg 1;hand 0;hole 60;hole 0;hole 3;");
         work(x, "darn 0 0 2;");
         due("now", x.whole(1), 0);
@@ -685,7 +569,7 @@ public final class DarnEggsPromises {
     }
 
     private static void p19() {
-        promise = "19 best";
+        about = "19 best";
         DarnEggs x = at(SMALL);
         due("best", x.best(0), 6);
         work(x, "darn 0 0 2;darn 0 0 1;");
@@ -705,7 +589,7 @@ public final class DarnEggsPromises {
     }
 
     private static void p20() {
-        promise = "20 given";
+        about = "20 given";
         DarnEggs x = at("egg 1;hand 0;hand 0;hand 0;hole 3;hole 1;hole 3;");
         due("hand 0", x.given(0, 0), 0);
         due("hand 1", x.given(0, 1), 1);
@@ -728,7 +612,7 @@ public final class DarnEggsPromises {
     }
 
     private static void p21() {
-        promise = "21 round";
+        about = "21 round";
         DarnEggs x = at("hole 1;hole 0;hole 1;hole 1;hole 0;path 0 1;path 1 2;path 1 3;");
         due("from 0", x.round(0), 4);
         due("from 1", x.round(1), 5);
@@ -746,7 +630,7 @@ public final class DarnEggsPromises {
     }
 
     private static void p22() {
-        promise = "22 guards";
+        about = "22 guards";
         due("none", new DarnEggs().guards(), 0);
         due("none worn", at("hole 0;hole 0;").guards(), 0);
         due("star", at("hole 1;hole 0;hole 1;hole 1;path 0 1;path 1 2;path 1 3;").guards(), 2);
@@ -756,7 +640,7 @@ public final class DarnEggsPromises {
     }
 
     private static void p23() {
-        promise = "23 way";
+        about = "23 way";
         DarnEggs x = at("hole 0;hole 0;hole 0;hole 0;hole 0;path 0 1;path 1 2;path 2 3;path 3 0;");
         due("one hole", x.way(2, 2), 0);
         due("two", x.way(0, 2), 2);
@@ -769,7 +653,7 @@ public final class DarnEggsPromises {
     }
 
     private static void p24() {
-        promise = "24 fits";
+        about = "24 fits";
         DarnEggs x = at("egg 1;egg 2;hand 0;hand 3;hand 6;hole 9;hole 2;hole 0;");
         due("all", x.fits(0), 6);
         due("first", x.fits(1), 0);
@@ -794,7 +678,7 @@ public final class DarnEggsPromises {
     }
 
     private static void p25() {
-        promise = "25 look";
+        about = "25 look";
         DarnEggs x = at("egg 1;egg 2;hand 0;hand 3;hand 6;hole 2;hole 9;hole 9;");
         // Mends 3, 2, 1: hole 0 leaves 0 by four pairs; hole 1 leaves 6, 7, 8 by two each
         due("the hole", x.look(0), 1);
@@ -815,7 +699,7 @@ public final class DarnEggsPromises {
     }
 
     private static void p26() {
-        promise = "26 first";
+        about = "26 first";
         DarnEggs x = new DarnEggs();
         due("q 0", x.first(5, 0, 0), 0);
         due("q 0", x.first(5, 0, 1), 1);
@@ -838,7 +722,7 @@ public final class DarnEggsPromises {
     }
 
     private static void p27() {
-        promise = "27 ridge";
+        about = "27 ridge";
         DarnEggs x = new DarnEggs();
         due("v above w", x.ridge(9, 5, 0), 1);
         due("both leave", x.ridge(9, 5, 1), 11);
@@ -863,7 +747,7 @@ public final class DarnEggsPromises {
     }
 
     private static void p28() {
-        promise = "28 wool";
+        about = "28 wool";
         DarnEggs x = at("hole 5;hole 8;hole 0;hole 2;");
         due("levelled", x.wool(1, 15, 9), 3);
         due("levelled", x.wool(3, 15, 9), 2);
@@ -884,7 +768,7 @@ public final class DarnEggsPromises {
     }
 
     private static void p29() {
-        promise = "29 worst";
+        about = "29 worst";
         DarnEggs x = at("hole 3;hole 7;hole 7;");
         due("hole", x.worst(0), 1);
         due("wear", x.worst(1), 7);
@@ -896,7 +780,7 @@ public final class DarnEggsPromises {
     }
 
     private static void p30() {
-        promise = "30 goes";
+        about = "30 goes";
         DarnEggs x = at("egg 1;egg 1;hand 0;hand 0;hole 4;hole 6;hole 6;hole 0;path 0 1;path 0 2;path 0 3;");
         law(x, "3");
         work(x, "darn 0 0 0;darn 1 1 3;");
@@ -916,7 +800,7 @@ public final class DarnEggsPromises {
     }
 
     private static void p31() {
-        promise = "31 parts";
+        about = "31 parts";
         due("none", new DarnEggs().parts(), 0);
         due("single ones", at("hole 1;hole 1;hole 1;").parts(), 3);
         due("two", at("hole 1;hole 1;hole 1;hole 0;path 3 0;path 0 2;").parts(), 2);
@@ -925,7 +809,7 @@ public final class DarnEggsPromises {
     }
 
     private static void p32() {
-        promise = "32 ridges";
+        about = "32 ridges";
         DarnEggs x = at("egg 9;hand 0;hand 0;hand 0;hole 1;hole 2;hole 2;");
         due("none", x.ridges(0), 0);
         due("none", x.ridges(1), -1);
@@ -941,7 +825,7 @@ public final class DarnEggsPromises {
     }
 
     private static void p33() {
-        promise = "33 generation";
+        about = "33 generation";
         DarnEggs x = at("egg 1;hand 0;hole 9;hole 9;wool 3;");
         // Seed 1 becomes 1103527590 (16838 of it), 2524885223, 662824084, 3295386010: hole is 10113 by 2, then 2
         due("wear", x.generation(1, 0, 1, 0), 15);
@@ -972,7 +856,7 @@ public final class DarnEggsPromises {
     }
 
     private static void p34() {
-        promise = "34 span";
+        about = "34 span";
         DarnEggs x = at("egg 2;egg 1;hand 0;hand 8;hole 9;hole 9;hole 4;path 0 1;moths 5;");
         int least = 1000;
         int most = 0;
@@ -1000,7 +884,7 @@ public final class DarnEggsPromises {
     }
 
     private static void p35() {
-        promise = "35 image";
+        about = "35 image";
         DarnEggs x = at("hole 1;");
         due("first", x.image(), 1);
         due("second", x.image(), 2);
@@ -1012,7 +896,7 @@ public final class DarnEggsPromises {
     }
 
     private static void p36() {
-        promise = "36 restore";
+        about = "36 restore";
         DarnEggs x = at("egg 1;hand 5;hole 9;hole 3;path 0 1;wool 5;");
         work(x, "shear 1;");
         work(x, "shear 2;");
@@ -1048,7 +932,7 @@ public final class DarnEggsPromises {
     }
 
     private static void p37() {
-        promise = "37 status";
+        about = "37 status";
         DarnEggs x = at("hole 1;");
         due("none", x.status(0), 0);
         due("none", x.status(1), 0);
@@ -1070,7 +954,7 @@ public final class DarnEggsPromises {
     }
 
     private static void p38() {
-        promise = "38 count";
+        about = "38 count";
         DarnEggs x = at("hole 1;");
         work(x, "day;");
         work(x, "day;");
@@ -1087,7 +971,7 @@ public final class DarnEggsPromises {
     // ---- terms -----------------------------------------------------------------------------
 
     private static void steps() {
-        promise = "a step";
+        about = "a step";
         DarnEggs x = at("egg 9;egg 1;hand 0;hand 0;hand 5;hole 60;hole 1;wool 98;");
         law(x, "20");
         due("ridge", work(x, "darn 0 0 1;"), 1);
@@ -1118,7 +1002,7 @@ public final class DarnEggsPromises {
     }
 
     private static void days() {
-        promise = "a day";
+        about = "a day";
         DarnEggs x = at("egg 1;egg 1;hand 5;hand 0;hole 9;hole 1;hole 0;path 1 0;path 1 2;");
         law(x, "0");
         work(x, "darn 0 0 0;darn 1 1 0;let 0 2;let 1 1;day;");
