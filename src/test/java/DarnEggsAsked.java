@@ -126,6 +126,12 @@ public final class DarnEggsAsked extends Sentences {
             due("none", x.given(0, 1), -1);
             work(x, "day;");
             due("the next DAY, 4 off 5 each", x.best(0), 8);
+            DarnEggs y = at("egg 1;" + times(6, "hand 0;") + times(9, "hole 9;"));
+            due("six HANDS", y.best(0), 18);
+            village(y, "egg 1;hand 0;hand 0;hole 9;hole 9;hole 9;");
+            due("two HANDS, behind six", y.best(0), 6);
+            village(y, "egg 1;hole 9;");
+            due("no HANDS, behind two", y.best(0), 0);
         });
         says("(MEND by this EGG as now, no more than WEAR, HATCHED or not, wool not asked) is most;", () -> {
             DarnEggs x = at("egg 9;egg 1;hand 0;hand 0;hole 20;hole 3;wool 2;", "heels*6+2", "darn 0 1 0;");
@@ -158,6 +164,11 @@ public final class DarnEggsAsked extends Sentences {
             DarnEggs w = at("egg 1;hand 9;hand 0;hand 0;hole 9;hole 9;");
             due("none, if each HOLE is worth more", w.given(0, 0), -1);
             due("then", w.given(0, 1), 0);
+            DarnEggs v = at("egg 1;hand 0;hand 9;hand 0;hole 9;hole 9;");
+            due("most", v.best(0), 6);
+            due("HAND 0", v.given(0, 0), 0);
+            due("HAND 1, between two, has none", v.given(0, 1), -1);
+            due("HAND 2", v.given(0, 2), 1);
         });
     }
 
@@ -260,6 +271,11 @@ public final class DarnEggsAsked extends Sentences {
             due("left", z.look(1), 0);
             DarnEggs w = at(times(6, "egg 1;") + times(6, "hand 0;") + "hole 0;");
             due("all alike", w.look(1), 36);
+            DarnEggs v = at("egg 1;hand 0;hand 0;hole 60;hole 59;moths 1;", "0", "again 30[day;];again 9[day;];");
+            due("WEAR", v.told(9), 197);
+            due("99 would be left by both", v.look(1), 2);
+            book(v, "0 99;");
+            due("98 would be left by both", v.look(1), 2);
         });
     }
 
@@ -370,6 +386,10 @@ public final class DarnEggsAsked extends Sentences {
             due("without HANDS", at("egg 1;hole 9;moths 2;").generation(3, 16, 9, 0), 13);
             due("without EGGS", at("hand 1;hole 9;moths 2;").generation(3, 16, 9, 0), 13);
             due("without HOLES", at("egg 1;hand 1;moths 2;").generation(3, 16, 9, 2), 0);
+            DarnEggs x = at("egg 9;hand 1;hole 9;");
+            village(x, "egg 9;hand 1;hole 9;");
+            village(x, "hand 1;hole 9;moths 2;");
+            due("without EGGS, behind VILLAGES with", x.generation(3, 16, 9, 0), 13);
             due("without all", new DarnEggs().generation(3, 16, 96, 3), 12);
             due("without all", new DarnEggs().span(3, 20, 16, 96, 1), 0);
         });

@@ -106,6 +106,7 @@ public final class DarnEggsCalls extends Sentences {
             due("0 of 20 bytes", x.village(0), 0);
             due("empty then", x.count(1), 0);
             due("nine", village(x, times(9, "hole 1;")), 9);
+            nothingOfEarlierOnes();
         });
         says("or the FAULT less 10 (all stays).", () -> {
             DarnEggs x = at(SMALL, "7", "darn 0 0 0;call 0;");
@@ -135,6 +136,27 @@ public final class DarnEggsCalls extends Sentences {
             feed(x, "hole 1;" + times(13, " "));
             due("20 of 20", x.village(20), 1);
         });
+    }
+
+    /** Whatever VILLAGES an object had, faulty ones among them: the latest is as on a new object. */
+    private static void nothingOfEarlierOnes() {
+        String[] texts = {SMALL, times(6, "egg 9;hand 9;hole 9;") + "path 0 5;path 1 2;moths 1;",
+            "", "hole 3;hole 3;path 1 0;moths 9;wool 0;", "egg 1;hand 0;hole 5;", "hole 3;", "wool 7;"};
+        DarnEggs x = new DarnEggs();
+        for (int i = 0; i < 40; i++) {
+            String t = texts[i * i % 7];
+            village(x, texts[i * 3 % 7] + "!");
+            village(x, t);
+            DarnEggs y = at(t);
+            same("a VILLAGE behind others", all(x), all(y));
+            due("days ahead", x.ahead(99, 0), y.ahead(99, 0));
+            due("generation", x.generation(i, 9, 20, 0), y.generation(i, 9, 20, 0));
+            due("guards", x.guards(), y.guards());
+            law(x, "20");
+            work(x, "darn 0 0 0;darn 1 0 1;let 0 0;");
+            book(x, "0 1;1 1;");
+            x.image();
+        }
     }
 
     private static void laws() {
@@ -755,6 +777,7 @@ public final class DarnEggsCalls extends Sentences {
             DarnEggs z = at(times(8, "hole 0;") + "hole 1;");
             due("the last", z.worst(0), 8);
             due("1", z.worst(1), 1);
+            due("HOLE 0", at("hole 7;hole 7;hole 6;").worst(0), 0);
         });
         says("Where what is OUT of an EGG would be behind the next DAY; NONE: it is not OUT.", () -> {
             DarnEggs x = at("egg 1;egg 9;hand 0;hole 3;hole 9;path 0 1;", "1", "darn 0 0 0;");
@@ -794,6 +817,9 @@ public final class DarnEggsCalls extends Sentences {
             due("the greatest", x.ridges(1), 1);
             work(x, "unpick 1;");
             due("then", x.ridges(1), 2);
+            work(x, "unpick 2;");
+            due("a ridge of 1, of HOLE 0", x.ridges(1), 0);
+            due("1", x.ridges(0), 1);
             due("no HOLES", new DarnEggs().ridges(1), -1);
         });
     }
@@ -915,14 +941,15 @@ public final class DarnEggsCalls extends Sentences {
             x.undo();
         }
         work(x, "shear 1;");
+        work(x, "shear 2;");
         x.image();
         village(x, "x");
         x.undo();
         x.undo();
         due("the second", x.restore(), 1);
-        due("its WORKS", x.count(2), 8);
+        due("its WORKS", x.count(2), 9);
         due("its DAY", x.told(4), 7);
-        due("its wool", x.told(5), 13);
+        due("its wool", x.told(5), 15);
         due("the first", x.restore(), 0);
         due("its WORKS", x.count(2), 16);
         for (int left = 15; left >= 0; left--) {

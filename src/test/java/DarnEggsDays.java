@@ -40,7 +40,9 @@ public final class DarnEggsDays extends Sentences {
 
     private static void atFirst() {
         says("It is DAY 0 at first, no heel was darned, there are no ridges, hooks, nothing is OUT.", () -> {
-            DarnEggs x = at(SMALL, "20", "darn 1 0 0;day;darn 1 0 1;let 0 1;day;");
+            DarnEggs x = at(SMALL, "20", "darn 1 0 0;day;darn 1 0 3;let 0 1;day;darn 0 1 1;");
+            due("a ridge", x.ridges(0) > 0, true);
+            due("darned this DAY", x.told(8), 1);
             village(x, SMALL);
             due("DAY", x.told(4), 0);
             due("HATCHED", x.told(6), 0);

@@ -1,4 +1,6 @@
 import java.io.IOException;
+import java.util.ArrayList;
+import java.util.List;
 
 /** The document's texts, sentence by sentence: the VILLAGE, the LAW, WORK, the BOOK, and FAULTS. */
 public final class DarnEggsTexts extends Sentences {
@@ -511,6 +513,7 @@ public final class DarnEggsTexts extends Sentences {
             workFault("days;", 1, 0);
             workFault("againday", 1, 0);
             workDoes("again2[day;];", 2, 0);
+            otherWords();
         });
         says("blanks (32) may stand ahead of all these, and at the end.", () -> {
             villageIs("   hole   1   ;   hole 1 ; path 0   1 ;   ", 2);
@@ -526,6 +529,38 @@ public final class DarnEggsTexts extends Sentences {
             villageFault("hole 1;\u00a0", 1, 7);
             lawFault("1\r", 1, 1);
         });
+    }
+
+    /** Each word with one letter less, more, or another one in its place is no word. */
+    private static void otherWords() {
+        for (String word : new String[] {"egg", "hand", "hole", "path", "wool", "moths"}) {
+            for (String other : others(word)) {
+                villageFault(other + " 1;", 1, 0);
+            }
+        }
+        String[] facts = {"heels", "anger", "wear", "ridge", "wool", "hooks", "day", "hand", "least", "most"};
+        for (String word : facts) {
+            for (String other : others(word)) {
+                lawFault(other + "[1,2]", 1, 0);
+            }
+        }
+        for (String word : new String[] {"darn", "let", "call", "unpick", "shear", "day", "again"}) {
+            for (String other : others(word)) {
+                workFault(other + " 1 1 1;", 1, 0);
+            }
+        }
+    }
+
+    private static List<String> others(String word) {
+        List<String> out = new ArrayList<>();
+        out.add(word.substring(1));
+        out.add(word.substring(0, word.length() - 1));
+        out.add(word + "s");
+        out.add("a" + word);
+        for (int i = 0; i < word.length(); i++) {
+            out.add(word.substring(0, i) + 'q' + word.substring(i + 1));
+        }
+        return out;
     }
 
     // ---- faults ----------------------------------------------------------------------------
