@@ -187,6 +187,10 @@ public final class DarnEggsAsked extends Sentences {
             String star = times(9, "hole 1;") + "path 0 1;path 0 2;path 0 3;path 0 4;path 0 5;path 0 6;path 0 7;path 0 8;";
             due("a star", at(star).round(0), 15);
             due("a star", at(star).round(8), 14);
+            DarnEggs y = at("hole 1;hole 0;hole 0;hole 1;path 0 1;path 1 3;");
+            due("a way", y.round(0), 2);
+            due("no way behind it", y.round(2), -1);
+            due("and back", y.round(1), 3);
         });
     }
 
@@ -288,6 +292,10 @@ public final class DarnEggsAsked extends Sentences {
             due("eight back", at(chain).way(8, 0), 8);
             due("the fewest", at(chain + "path 0 6;").way(0, 8), 3);
             due("none", at("hole 1;hole 1;").way(0, 1), -1);
+            DarnEggs x = at("hole 0;hole 0;hole 0;hole 0;path 0 1;path 1 3;");
+            due("one that is", x.way(0, 3), 2);
+            due("none behind it", x.way(2, 3), -1);
+            due("none behind it", x.way(3, 2), -1);
         });
         says("FIRST of n, q: each darn hooks by q of 16, each by itself: how likely the n-th is the first that does.",
                 () -> {
