@@ -619,6 +619,7 @@ public final class DarnEggsCalls extends Sentences {
             badArgument("both wrong", () -> x.ahead(-1, 3));
             due("no HOLES", new DarnEggs().ahead(99, 2), 0);
             due("nine of 0", at(times(9, "hole 0;")).ahead(99, 2), 511);
+            due("nine of 60, by moths", at(times(9, "hole 60;") + "moths 1;").ahead(99, 0), 891);
         });
         says("WHOLE.", () -> {
             due("now", at("hole 0;").whole(0), 0);
@@ -821,6 +822,11 @@ public final class DarnEggsCalls extends Sentences {
             due("a ridge of 1, of HOLE 0", x.ridges(1), 0);
             due("1", x.ridges(0), 1);
             due("no HOLES", new DarnEggs().ridges(1), -1);
+            DarnEggs y = at("egg 9;hand 0;" + times(8, "hole 9;") + "hole 2;");
+            due("nine without", y.ridges(1), -1);
+            work(y, "darn 0 0 8;");
+            due("of nine the last", y.ridges(1), 8);
+            due("of nine the last", y.ridges(0), 1);
         });
     }
 
