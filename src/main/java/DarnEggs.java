@@ -439,7 +439,7 @@ public final class DarnEggs {
         needBetween(q, 0, 16);
         needBetween(days, 1, 96);
         needBetween(what, 0, 2);
-        int least = Integer.MAX_VALUE;
+        int least = MOST_HOLES * MOST_OF_ALL;
         int most = 0;
         int allHatched = 0;
         for (int i = 0; i < many; i++) {

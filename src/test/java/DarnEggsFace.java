@@ -21,6 +21,8 @@ public final class DarnEggsFace {
         face();
         members();
         words();
+        library();
+        lengths();
         if (wrong > 0) {
             System.exit(1);
         }
@@ -101,7 +103,7 @@ public final class DarnEggsFace {
 
     private static void words() throws Exception {
         String source = Files.readString(SOURCE, StandardCharsets.UTF_8);
-        String code = source.replaceAll("(?s)/\\*.*?\\*/", "").replaceAll("//[^\n]*", "");
+        String code = bareCode();
         String[] never = {"\\bfinally\\b", "\\btry\\b", "\\bcatch\\b", "->", "::", "\\bassert\\b", "\\bsynchronized\\b",
             "\\w+Exact\\b", "\\bSystem\\.(?!arraycopy)", "\\bjava\\.(?!util\\.NoSuchElementException;)", "\\bdouble\\b",
             "\\bfloat\\b", "\"\\s*\\+", "\\+\\s*\"", "\\bstatic\\s*\\{", "\\bpackage\\b", "\\bRandom\\b", "\\bThread\\b"};
@@ -116,6 +118,59 @@ public final class DarnEggsFace {
                 say("a sign beyond 126 at " + i);
                 return;
             }
+        }
+    }
+
+    private static String bareCode() throws Exception {
+        String source = Files.readString(SOURCE, StandardCharsets.UTF_8);
+        return source.replaceAll("(?s)/\\*.*?\\*/", "").replaceAll("//[^\n]*", "");
+    }
+
+    /** Rule 4 lists functions only, so a constant of Integer or Long is none of them either. */
+    private static void library() throws Exception {
+        String code = bareCode();
+        Set<String> fine = Set.of("Integer.bitCount", "Math.max", "Math.min", "System.arraycopy");
+        Matcher m = Pattern.compile("\\b(Integer|Long|Math|System|Arrays|String|Character|Boolean)\\.\\w+").matcher(code);
+        while (m.find()) {
+            if (!fine.contains(m.group())) {
+                say("of the library: " + m.group());
+            }
+        }
+        Matcher thrown = Pattern.compile("\\bthrow\\b[^;]*;").matcher(code);
+        while (thrown.find()) {
+            if (!thrown.group().matches("throw new (NoSuchElement|IllegalArgument)Exception\\(\\);")) {
+                say("thrown: " + thrown.group());
+            }
+        }
+    }
+
+    /** Rule 11: seven parameters (the document's own would() has eight), some sixty lines, some twenty fields. */
+    private static void lengths() throws Exception {
+        Matcher m = Pattern.compile("(?m)^( +)[\\w ]*?(\\w+)\\(([^()]*)\\)[\\w\\s,]*\\{$(?s:.*?)^\\1\\}").matcher(bareCode());
+        int seen = 0;
+        while (m.find()) {
+            String name = m.group(2);
+            seen++;
+            if (m.group(3).split(",").length > 7 && !name.equals("would")) {
+                say("more than seven parameters: " + name);
+            }
+            if (m.group().lines().count() > 60) {
+                say("more than sixty lines: " + name);
+            }
+        }
+        if (seen < 100) {
+            say("only " + seen + " methods were found in the source");
+        }
+        tooManyFields(DarnEggs.class);
+        for (Class<?> c : DarnEggs.class.getDeclaredClasses()) {
+            tooManyFields(c);
+        }
+    }
+
+    private static void tooManyFields(Class<?> c) {
+        long fields = Arrays.stream(c.getDeclaredFields()).filter(f -> !Modifier.isStatic(f.getModifiers())).count();
+        if (fields > 20) {
+            say("more than twenty fields: " + c);
         }
     }
 }

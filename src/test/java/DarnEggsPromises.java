@@ -7,6 +7,7 @@ public final class DarnEggsPromises extends Due {
         p31(); p32(); p33(); p34(); p35(); p36(); p37(); p38();
         steps();
         days();
+        readme();
         end();
     }
 
@@ -1037,5 +1038,24 @@ public final class DarnEggsPromises extends Due {
         work(v, "day;");
         due("no hand has darned the next day", v.hand(0, 1), 0);
         due("moths", v.hole(0, 0), 10);
+    }
+
+    // README.md shows these calls and texts.
+    private static void readme() {
+        about = "README.md";
+        DarnEggs x = new DarnEggs();
+        due("feed", x.feed(0x65676720, 0x313b6861, 0x6e642030, 0x3b686f6c, 0x6520393b), 20);
+        due("village", x.village(20), 1);
+        due("feed", x.feed(0x6461726e, 0x20302030, 0x20303b20, 0, 0), 20);
+        due("work", x.work(12), 1);
+        due("hole", x.hole(0, 0), 6);
+        due("undo", x.undo(), 0);
+        due("hole", x.hole(0, 0), 9);
+        DarnEggs y = new DarnEggs();
+        due("village", village(y, "egg 2;hand 6;hole 5;hole 8;path 0 1;wool 4;moths 3;"), 2);
+        due("law", law(y, "least[wear, 3 + heels / 2] - anger % 4"), 1);
+        due("work", work(y, "darn 0 0 1;again 3[day;unpick 1;];let 0 1;call 0;shear 9;"), 5);
+        due("refused", y.told(11), 5);
+        due("book", book(y, "0 2;1 7;"), 2);
     }
 }
